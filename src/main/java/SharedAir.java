@@ -454,12 +454,11 @@ public final class SharedAir {
         trial.become(air);
         int done = 0;
         boolean stopped = false;
-        for (int p = 0; p < text.length && !stopped; p += actLength(text.at(p))) {
-            if (doAct(p)) {
-                done++;
-            } else {
-                stopped = true;
-            }
+        int p = 0;
+        for (int i = 0; i < MOST_SIGNS && p < text.length && !stopped; i++) {
+            stopped = !doAct(p);
+            done += stopped ? 0 : 1;
+            p += actLength(p);
         }
         text.length = 0;
         told.tellTwo(stopped ? 1 : 0, air.sumOf(DELIVERED) - trial.sumOf(DELIVERED));
@@ -614,7 +613,9 @@ public final class SharedAir {
         return MOST_ON + 1;
     }
 
-    private static int actLength(int sign) {
+    /** How many signs the ACT at p has. */
+    private int actLength(int p) {
+        int sign = text.at(p);
         if (sign == 'f') {
             return 5;
         }
@@ -623,11 +624,13 @@ public final class SharedAir {
 
     /** The place of the first sign of THE TEXT that can't stand in A DAY, or -1. */
     private int faultInDay() {
-        for (int p = 0; p < text.length; p += actLength(text.at(p))) {
+        int p = 0;
+        for (int i = 0; i < MOST_SIGNS && p < text.length; i++) {
             int fault = faultInAct(p);
             if (fault >= 0) {
                 return fault;
             }
+            p += actLength(p);
         }
         return -1;
     }

@@ -14,7 +14,7 @@ public final class ModelTest {
 
     public static void main(String[] args) {
         long answers = 0;
-        for (int run = 1; run <= 400 && wrong < 10; run++) {
+        for (int run = 1; run <= 1000 && wrong < 10; run++) {
             answers += new Run(run).go();
         }
         System.out.println(wrong == 0 ? answers + " answers are as the model's" : "some answers are not as the model's");
@@ -1061,13 +1061,20 @@ public final class ModelTest {
         }
 
         long go() {
+            if (number % 2 == 0) {
+                // Short WAITS, small WINDOWS and many FRAMES: more of what is rare.
+                for (int what = 0; what < 12; what++) {
+                    int v = 1 + random.nextInt(what < 2 ? 4 : what < 7 ? 3 : 7);
+                    acted("sets(" + what + "," + v + ")", air.sets(what, v), model.sets(what, v));
+                }
+            }
             if (random.nextInt(8) > 0) {
                 newNet();
             }
             for (int i = 0; i < 160 && !bad; i++) {
                 act();
                 compareRow();
-                if (i % 20 == 19) {
+                if (i % 40 == 39) {
                     compareAll();
                 }
             }
@@ -1181,6 +1188,7 @@ public final class ModelTest {
                 acted("sheet(" + r + "," + sheetKind + "," + n + "," + f + "," + step + ")", air.sheet(r, sheetKind, n, f, step), model.sheet(r, sheetKind, n, f, step));
             } else if (kind < 30) {
                 acted("undo", air.undo(), model.undo());
+                compareAll();
             } else if (kind < 31) {
                 rarer(a);
             } else {

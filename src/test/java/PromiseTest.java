@@ -906,6 +906,18 @@ public final class PromiseTest {
         }
         due("28: not by then", y.quiet(), -2);
         dueRow("28: ROW stays", y);
+        SharedAir z = new SharedAir();
+        z.sets(1, 1);
+        z.sets(3, 1);
+        z.sets(7, 15);
+        net(z, "2ab3");
+        for (int i = 0; i < 7; i++) {
+            z.offers(0, 0, 1, 5);
+        }
+        due("28: 100 SLOTS are too many", z.quiet(), -2);
+        z.slots(1);
+        due("28: 99 are not", z.quiet(), 99);
+        due("28: it takes so many", goTillDelivered(z, 7), 99);
     }
 
     private static void promise29() {
@@ -925,6 +937,36 @@ public final class PromiseTest {
         net(x, "2ab1");
         due("29: none again", x.next(), -2);
         dueRow("29: ROW stays", x, 5);
+        // c's RANK 1 met INSIDE: its WINDOW is 63. It DRAWS 63 while a SENDS 36 PLACES and WAITS 9 SLOTS behind that.
+        SharedAir y = new SharedAir();
+        y.sets(1, 4);
+        y.sets(4, 9);
+        y.sets(8, 31);
+        y.sets(11, 63);
+        net(y, "3ab1bc1ac1");
+        y.slots(9);
+        y.offers(2, 0, 1, 1);
+        y.offers(2, 1, 1, 1);
+        y.slots(2);
+        due("29: WINDOW", y.rank(2, 1, 2), 63);
+        for (int i = 0; i < 4; i++) {
+            y.offers(0, 0, 1, 9);
+        }
+        y.slots(3);
+        due("29: ASK", y.exchange(0, 4), 1);
+        int seed = 0;
+        while (y.rank(2, 1, 1) != 63 && seed < 10000) {
+            y.sets(12, seed);
+            y.draws();
+            seed++;
+        }
+        due("29: COUNT", y.rank(2, 1, 1), 63);
+        due("29: it is 110 on", y.next(), -2);
+        y.slots(10);
+        due("29: it is 100 on", y.next(), -2);
+        y.slots(1);
+        due("29: it is 99 on", y.next(), 99);
+        dueRow("29: c begins", y, 4);
     }
 
     private static void promise30() {
@@ -965,6 +1007,12 @@ public final class PromiseTest {
             z.offers(1, 0, 0, 9);
         }
         due("30: too late for 99", z.soonest(0), -2);
+        int late = 0;
+        while (z.soonest(0) < 0 && late < 600) {
+            z.slots(1);
+            late++;
+        }
+        due("30: as soon as 99 are enough", of(() -> z.row(0)), 99);
     }
 
     private static int goTillDelivered(SharedAir x, int delivered) {
@@ -1068,6 +1116,20 @@ public final class PromiseTest {
         y.undo();
         due("32: it goes on", y.exchange(0, 5), 4);
         due("32: and comes", y.slots(5), 1);
+        SharedAir z = made("3ab2bc2");
+        z.offers(0, 0, 1, 5);
+        z.slots(4);
+        z.keep(0);
+        net(z, "6ab2");
+        z.undo();
+        due("32: SPAN", z.spanOf(2), 0);
+        dueRow("32: SPAN by GRANT", z, 1, 6);
+        z.slots(7);
+        z.again(0);
+        due("35: SPAN", z.spanOf(2), 0);
+        dueRow("35: SPAN by GRANT", z, 1, 6);
+        due("35: the GRANT was heard", z.sent(), 2);
+        dueRow("35: by a and c", z, 5, 0);
     }
 
     private static void promise33() {
