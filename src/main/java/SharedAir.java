@@ -13,6 +13,7 @@ public final class SharedAir {
     private static final int MOST_UNDONE = 6;
     private static final int MOST_KEPT = 2;
     private static final int MOST_SLOTS = 60;
+    // What would be is told of so many SLOTS on, T .. T + 98.
     private static final int MOST_ON = 99;
     private static final int MOST_TIMES = 40;
     private static final int MOST_ALIKE = 5;
@@ -400,19 +401,19 @@ public final class SharedAir {
 
     public int quiet() {
         trial.become(air);
-        for (int k = 0; k <= MOST_ON; k++) {
-            if (trial.waiting() == 0 && trial.exchangesOn() == 0) {
-                told.tellOne(trial.sumOf(DELIVERED) - air.sumOf(DELIVERED));
-                return k;
-            }
+        for (int k = 0; k < MOST_ON && !trial.isQuiet(); k++) {
             trial.passSlot();
         }
-        return -2;
+        if (!trial.isQuiet()) {
+            return -2;
+        }
+        told.tellOne(trial.sumOf(DELIVERED) - air.sumOf(DELIVERED));
+        return trial.time - air.time;
     }
 
     public int next() {
         trial.become(air);
-        for (int k = 0; k <= MOST_ON; k++) {
+        for (int k = 0; k < MOST_ON; k++) {
             trial.passSlot();
             if (trial.beginning != 0) {
                 told.tellOne(trial.beginning);
@@ -1163,6 +1164,10 @@ public final class SharedAir {
                 sum += stations[s].exchange.goesOn ? 1 : 0;
             }
             return sum;
+        }
+
+        boolean isQuiet() {
+            return waiting() == 0 && exchangesOn() == 0;
         }
 
         void emptyQueues(int rank) {

@@ -894,7 +894,7 @@ public final class ModelTest {
 
         int next() {
             World x = w.copy();
-            for (int k = 0; k < 100; k++) {
+            for (int k = 0; k < 99; k++) {
                 x.slot();
                 int beginning = x.slots.get(x.slots.size() - 1).beginning;
                 if (beginning != 0) {

@@ -961,12 +961,22 @@ public final class PromiseTest {
             seed++;
         }
         due("29: COUNT", y.rank(2, 1, 1), 63);
-        due("29: it is 110 on", y.next(), -2);
+        // c begins in the 111th SLOT on; next() looks at 99 of them, T .. T + 98.
+        due("29: 110 SLOTS are ahead of it", y.next(), -2);
         y.slots(10);
-        due("29: it is 100 on", y.next(), -2);
+        due("29: 100 are, it is the 101st SLOT on", y.next(), -2);
         y.slots(1);
-        due("29: it is 99 on", y.next(), 99);
+        y.busy();
+        due("29: 99 are, it is the 100th SLOT on", y.next(), -2);
+        due("29: ROW stays", y.count(5), 2);
+        y.slots(1);
+        due("29: 98 are, it is the 99th SLOT on", y.next(), 98);
         dueRow("29: c begins", y, 4);
+        y.slots(60);
+        due("29: 38 are", y.next(), 38);
+        y.slots(38);
+        due("29: so it does", y.next(), 0);
+        dueRow("29: c", y, 4);
     }
 
     private static void promise30() {
