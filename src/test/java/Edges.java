@@ -14,6 +14,7 @@ final class Edges {
 
     private final Map<String, String> parts = new LinkedHashMap<>();
     private final Map<String, Integer> testsOf = new LinkedHashMap<>();
+    private final Map<String, Integer> testsOfSentence = new LinkedHashMap<>();
     private String now = "";
     private int tests = 0;
     private int wrongTests = 0;
@@ -74,6 +75,7 @@ final class Edges {
         faultsNow = 0;
         tests++;
         testsOf.merge(part, 1, Integer::sum);
+        testsOfSentence.merge(part + ", \"" + sentence + "\"", 1, Integer::sum);
         if (!parts.getOrDefault(part, "").contains(plain(sentence))) {
             fault("the document does not say that there");
         }
@@ -98,7 +100,8 @@ final class Edges {
                 System.out.println(part + " has no test");
             }
         }
-        System.out.println(name + ": " + tests + " tests of sentences, " + wrongTests + " failed " + testsOf);
+        testsOfSentence.forEach((sentence, many) -> System.out.println(many + (many == 1 ? " test of " : " tests of ") + sentence));
+        System.out.println(name + ": " + tests + " tests of " + testsOfSentence.size() + " sentences, " + wrongTests + " failed");
         if (wrongTests != 0) {
             System.exit(1);
         }
@@ -370,7 +373,7 @@ final class Edges {
         x.sets(0, 7);
         x.sets(7, 5);
         x.offers(0, 0, 1, 1);
-        x.offers(0, 1, 1, 1);
+        x.offers(0, 1, 1, 3);
         x.offers(2, 0, 1, 1);
         x.slots(60);
         x.offers(1, 3, 0, 9);
@@ -378,12 +381,33 @@ final class Edges {
         return x;
     }
 
-    /** Both tell the same but for what can be undone and what is kept. */
-    static boolean sameButForUndo(String got, String due) {
-        return withoutUndo(got).equals(withoutUndo(due));
+    /** ASKS, spoilt PLACES, FRAMES that come in part, SPANS: so many SLOTS of it went by, one by one. */
+    static SharedAir manyThings(int slots) {
+        SharedAir x = new SharedAir();
+        x.sets(3, 3);
+        x.sets(4, 4);
+        net(x, "4ab2bc2cd2");
+        x.offers(0, 0, 1, 1);
+        x.offers(0, 0, 1, 2);
+        x.offers(2, 1, 3, 1);
+        x.offers(3, 2, 2, 6);
+        x.offers(0, 3, 1, 7);
+        goOn(x, slots);
+        return x;
     }
 
-    static String withoutUndo(String all) {
+    static void goOn(SharedAir x, int slots) {
+        for (int i = 0; i < slots; i++) {
+            x.slots(1);
+        }
+    }
+
+    /** Both tell the same but for what can be undone and what is kept. */
+    static boolean sameButForUndo(SharedAir x, SharedAir y) {
+        return withoutUndo(all(x)).equals(withoutUndo(all(y)));
+    }
+
+    private static String withoutUndo(String all) {
         String[] counts = all.substring(0, all.indexOf("\nundone")).split(",", 6);
         counts[4] = "";
         return String.join(",", counts);

@@ -954,12 +954,7 @@ public final class PromiseTest {
         }
         y.slots(3);
         due("29: ASK", y.exchange(0, 4), 1);
-        int seed = 0;
-        while (y.rank(2, 1, 1) != 63 && seed < 10000) {
-            y.sets(12, seed);
-            y.draws();
-            seed++;
-        }
+        Edges.drawCounts(y, -1, 63);
         due("29: COUNT", y.rank(2, 1, 1), 63);
         // c begins in the 111th SLOT on; next() looks at 99 of them, T .. T + 98.
         due("29: 110 SLOTS are ahead of it", y.next(), -2);

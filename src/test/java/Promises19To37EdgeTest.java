@@ -299,6 +299,28 @@ public final class Promises19To37EdgeTest {
             t.due("spoilt(0, 2)", x.spoilt(0, 2), 0);
             t.dueRow(x, 1);
         });
+        t.edge("Promise 21", places, "as y is not CLEAR: neither one unheard, nor one that is silent, nor y itself", () -> {
+            SharedAir x = Edges.made("6ab1bc1de1bf1");
+            x.offers(0, 0, 1, 1);
+            x.offers(2, 0, 1, 1);
+            x.offers(3, 0, 4, 1);
+            x.slots(3);
+            t.due("a, c, d SENT", x.sent(), 13);
+            t.due("c", x.spoilt(0, 2), 1);
+            t.due("d, unheard", x.spoilt(0, 3), 0);
+            t.due("f, silent", x.spoilt(0, 5), 0);
+            t.due("y itself", x.spoilt(0, 1), 0);
+        });
+        t.edge("Promise 21", places, "y SENDS itself and HEARS nobody else", () -> {
+            SharedAir x = Edges.made("3ab1bc1");
+            x.offers(0, 0, 1, 1);
+            x.offers(1, 0, 2, 1);
+            x.slots(3);
+            t.due("a and b SENT", x.sent(), 3);
+            t.due("b itself", x.spoilt(0, 1), 0);
+            t.due("c", x.spoilt(0, 2), 0);
+            t.dueRow(x, 1);
+        });
         t.edge("Promise 21", places, "y HEARS z too, by ASK alone", () -> {
             SharedAir x = bothFail(5);
             t.due("spoilt(0, 2)", x.spoilt(0, 2), 0);
@@ -634,6 +656,28 @@ public final class Promises19To37EdgeTest {
                 t.due("ahead", x.ahead(it[0], it[1]), -1);
             });
         }
+        t.edge("Promise 27", sentence, "LOST in them, as some were ahead of them", () -> {
+            SharedAir x = someLost();
+            t.due("LOST so far", lostOf(x), 2);
+            t.due("none in 60 more", x.ahead(60, 1), 0);
+            x.offers(0, 0, 1, 1);
+            x.offers(2, 0, 1, 1);
+            Edges.drawCounts(x, 0, 0);
+            t.due("two more", x.ahead(60, 1), 2);
+        });
+        t.edge("Promise 27", sentence, "in each SLOT of a run", () -> {
+            for (int k = 0; k < 40; k++) {
+                SharedAir x = Edges.manyThings(k);
+                int[] told = new int[5];
+                for (int what = 0; what < 5; what++) {
+                    told[what] = x.ahead(7, what);
+                }
+                t.due("DELIVERED", x.slots(7), told[0]);
+                t.dueRow(x, told[1], told[2], Edges.of(() -> x.row(2)));
+                t.due("wait", x.count(2), told[3]);
+                t.due("who SENDS", x.sent(), told[4]);
+            }
+        });
         t.edge("Promise 27", sentence, "as slots() tells it", () -> {
             SharedAir x = Edges.used();
             int delivered = x.ahead(60, 0);
@@ -647,6 +691,16 @@ public final class Promises19To37EdgeTest {
             t.due("wait", x.count(2), wait);
             t.due("who SENDS", x.sent(), who);
         });
+    }
+
+    /** a and c turned to b at once, and both FRAMES were LOST. */
+    private static SharedAir someLost() {
+        SharedAir x = Edges.made("3ab1bc1");
+        x.sets(2, 1);
+        x.offers(0, 0, 1, 1);
+        x.offers(2, 0, 1, 1);
+        x.slots(9);
+        return x;
     }
 
     private static int goesQuiet(SharedAir x) {
@@ -677,6 +731,15 @@ public final class Promises19To37EdgeTest {
             x.slots(3);
             t.due("its ANSWER", x.quiet(), 1);
             t.dueRow(x, 1);
+        });
+        t.edge("Promise 28", sentence, "FRAMES, not UNITS, and those till then alone", () -> {
+            SharedAir x = Edges.made("2ab1");
+            x.offers(0, 0, 1, 3);
+            x.slots(6);
+            x.offers(0, 0, 1, 3);
+            x.offers(0, 0, 1, 4);
+            t.due("quiet()", x.quiet() > 0, true);
+            t.dueRow(x, 2);
         });
         t.edge("Promise 28", sentence, "what is LOST is not DELIVERED", () -> {
             SharedAir x = Edges.made("3ab1bc1");
@@ -867,6 +930,27 @@ public final class Promises19To37EdgeTest {
         for (int y : others) {
             t.edge("Promise 30", sentence, "NONE " + y, () -> t.due("soonest", Edges.made("3ab1bc1").soonest(y), -1));
         }
+        t.edge("Promise 30", sentence, "1 UNIT, together with one that waits", () -> {
+            SharedAir x = Edges.made("2ab1");
+            x.offers(0, 0, 1, 1);
+            t.due("soonest(1)", x.soonest(1), 0);
+            // SLOTS 0 and 1, two PLACES, their ANSWER.
+            t.dueRow(x, 5);
+        });
+        t.edge("Promise 30", sentence, "behind as many as go TOGETHER", () -> {
+            SharedAir x = Edges.made("2ab1");
+            x.offers(0, 0, 1, 1);
+            x.offers(0, 0, 1, 1);
+            t.due("soonest(1)", x.soonest(1), 0);
+            // The first two take 5; then COUNT 2 goes down behind STILL 3 and 4, DATA, ANSWER.
+            t.dueRow(x, 11);
+        });
+        t.edge("Promise 30", sentence, "the one offered, not another one", () -> {
+            SharedAir x = Edges.made("3ab1ac1");
+            x.offers(0, 0, 2, 1);
+            t.due("soonest(1)", x.soonest(1), 0);
+            t.due("it is not that for c", Edges.of(() -> x.row(0)) > 4, true);
+        });
         t.edge("Promise 30", sentence, "in the midst of its own EXCHANGE", () -> {
             SharedAir x = Edges.made("2ab1");
             x.slots(9);
@@ -964,6 +1048,22 @@ public final class Promises19To37EdgeTest {
             t.due("day()", Edges.day(x, "s10s01"), 2);
             t.due("T", x.count(1), 11);
         });
+        t.edge("Promise 31", "s, two digits (slots())", "digits 0 and 9", () -> {
+            int[] many = {1, 9, 10, 19, 20, 29, 50, 59, 60};
+            for (int n : many) {
+                SharedAir x = new SharedAir();
+                t.due("day()", Edges.day(x, n < 10 ? "s0" + n : "s" + n), 1);
+                t.due("T", x.count(1), n);
+            }
+        });
+        t.edge("Promise 31", "d (draws())", "all COUNTS are DRAWN", () -> {
+            SharedAir x = Edges.made("2ab1");
+            x.offers(0, 0, 1, 1);
+            x.offers(1, 2, 0, 1);
+            t.due("day()", Edges.day(x, "d"), 1);
+            t.due("a's", x.rank(0, 0, 1), 16838 % 4);
+            t.due("b's", x.rank(1, 2, 1), 38526 % 16);
+        });
         String empty = "(an empty one: no ACTS)";
         t.edge("Promise 31", empty, "none", () -> {
             SharedAir x = Edges.made("2ab1");
@@ -1022,6 +1122,11 @@ public final class Promises19To37EdgeTest {
             t.due("day()", Edges.day(x, "fa0b1s04"), 2);
             t.dueRow(x, 0, 1);
         });
+        t.edge("Promise 31", done, "FRAMES, not UNITS", () -> {
+            SharedAir x = Edges.made("2ab1");
+            t.due("day()", Edges.day(x, "fa0b3fb2a2s60"), 3);
+            t.dueRow(x, 0, 2);
+        });
         t.edge("Promise 31", done, "one SLOT less", () -> {
             SharedAir x = Edges.made("2ab1");
             t.due("day()", Edges.day(x, "fa0b1s03"), 2);
@@ -1061,8 +1166,9 @@ public final class Promises19To37EdgeTest {
         });
         t.edge("Promise 31", done, "by it alone", () -> {
             SharedAir x = Edges.made("2ab1");
-            x.offers(0, 0, 1, 1);
-            x.slots(4);
+            x.offers(0, 0, 1, 3);
+            x.slots(6);
+            t.due("one came ahead of it", x.count(7), 1);
             t.due("day()", Edges.day(x, "s60"), 1);
             t.dueRow(x, 0, 0);
         });
@@ -1166,7 +1272,35 @@ public final class Promises19To37EdgeTest {
             SharedAir y = Edges.used();
             x.slots(60);
             t.due("undo()", x.undo() >= 0, true);
-            t.due("all as ahead of it", Edges.sameButForUndo(Edges.all(x), Edges.all(y)), true);
+            t.due("all as ahead of it", Edges.sameButForUndo(x, y), true);
+        });
+        undoneInTheMidst(ahead, "net()", x -> Edges.net(x, "6"));
+        undoneInTheMidst(ahead, "offers()", x -> x.offers(0, 1, 1, 7));
+        undoneInTheMidst(ahead, "slots()", x -> x.slots(60));
+        undoneInTheMidst(ahead, "draws()", x -> x.draws());
+        undoneInTheMidst(ahead, "day()", x -> Edges.day(x, "fb1a3ds33s61"));
+        undoneInTheMidst(ahead, "sets() of SEED", x -> x.sets(12, 99));
+        for (int what = 0; what < 12; what++) {
+            int it = what;
+            undoneInTheMidst(ahead, "sets() of " + it, x -> x.sets(it, x.setting(it) == 1 ? 2 : 1));
+        }
+        t.edge("Promise 32", ahead, "in each SLOT of a run", () -> {
+            for (int k = 1; k < 40; k++) {
+                SharedAir x = Edges.manyThings(k);
+                x.slots(11);
+                x.undo();
+                t.due("as ahead of it, in SLOT " + k, Edges.sameButForUndo(x, Edges.manyThings(k)), true);
+                SharedAir y = Edges.manyThings(k);
+                Edges.net(y, "4ab3bc3cd3");
+                Edges.offerMany(y, 4, 0, 0, 1, 3);
+                y.slots(4);
+                y.undo();
+                for (int i = 0; i < 5; i++) {
+                    y.undo();
+                }
+                Edges.goOn(y, 12);
+                t.due("and it goes on so, from SLOT " + k, Edges.sameButForUndo(y, Edges.manyThings(k + 12)), true);
+            }
         });
         t.edge("Promise 32", ahead, "THE TEXT and the ROW stay", () -> {
             SharedAir x = Edges.made("2ab1");
@@ -1188,6 +1322,16 @@ public final class Promises19To37EdgeTest {
             t.due("not refused", x.count(4), 0);
             t.due("undo()", x.undo(), -1);
             t.due("T", x.count(1), 1);
+        });
+    }
+
+    private static void undoneInTheMidst(String sentence, String call, Edges.Act act) {
+        t.edge("Promise 32", sentence, "of " + call + ", in the midst of an EXCHANGE", () -> {
+            SharedAir x = Edges.manyThings(25);
+            t.due("one goes on", x.count(3) > 0, true);
+            act.on(x);
+            x.undo();
+            t.due("all as ahead of it", Edges.sameButForUndo(x, Edges.manyThings(25)), true);
         });
     }
 
@@ -1282,6 +1426,27 @@ public final class Promises19To37EdgeTest {
             t.due("of those since net()", y.count(7) - had, came);
             String due = (lostOf(y) - lost) + " " + y.count(2) + " " + (y.count(1) - time) + " ";
             t.due("the ROW " + told + "is " + due, told.equals(due), true);
+        });
+        t.edge("Promise 33", draws, "some are LOST by it", () -> {
+            int lost = 0;
+            for (int seed = 0; seed < 8; seed++) {
+                SharedAir x = Edges.made("3ab1bc1");
+                x.sets(2, 1);
+                int came = x.years(seed, 40);
+                String told = Edges.row(x);
+                SharedAir y = Edges.made("3ab1bc1");
+                y.sets(2, 1);
+                t.due("DELIVERED", came, doYears(y, seed, 40));
+                String due = lostOf(y) + " " + y.count(2) + " " + y.count(1) + " ";
+                t.due("the ROW " + told + "is " + due, told.equals(due), true);
+                lost += lostOf(y);
+            }
+            t.due("some were", lost > 0, true);
+        });
+        t.edge("Promise 33", draws, "what was LOST ahead of it does not count", () -> {
+            SharedAir x = someLost();
+            x.years(1, 1);
+            t.dueRow(x, 0, 0, 7);
         });
         t.edge("Promise 33", draws, "of no STATIONS all offers() are refused", () -> {
             SharedAir x = new SharedAir();
@@ -1380,6 +1545,40 @@ public final class Promises19To37EdgeTest {
         });
     }
 
+    private static String spansOf(SharedAir x) {
+        StringBuilder told = new StringBuilder();
+        for (int s = 0; s < x.count(0); s++) {
+            int by = x.spanOf(s);
+            told.append(by).append(by < 0 ? "" : Edges.row(x)).append(',');
+        }
+        return told.toString();
+    }
+
+    /** f and e turn to a at once, without ASKING; a has RATE 2 and LUCK 1 to f. */
+    private static SharedAir lastOnes() {
+        SharedAir x = new SharedAir();
+        x.sets(7, 1);
+        Edges.net(x, "6af3ae3");
+        for (int i = 0; i < 4; i++) {
+            x.offers(0, 0, 5, 1);
+            x.slots(9);
+        }
+        x.offers(5, 0, 0, 1);
+        x.offers(4, 0, 0, 2);
+        x.slots(3);
+        return x;
+    }
+
+    private static void dueLastOnes(SharedAir x) {
+        t.due("RATE of a to f", x.rate(0, 5), 2);
+        t.dueRow(x, 1, 3);
+        t.due("PLACES of e that f spoilt", x.spoilt(4, 5), 1);
+        t.dueRow(x, 2);
+        t.due("PLACES of f that e spoilt", x.spoilt(5, 4), 1);
+        t.dueRow(x, 1);
+        t.due("f HEARS", x.station(5, 5), 1);
+    }
+
     private static void again() {
         t.edge("Promise 35", "Refused: nothing kept.", "nothing, under another number, another number", () -> {
             SharedAir x = new SharedAir();
@@ -1413,6 +1612,48 @@ public final class Promises19To37EdgeTest {
             y.keep(0);
             y.again(0);
             t.due("all", Edges.all(x).equals(Edges.all(y)), true);
+        });
+        t.edge("Promise 35", kept, "in each SLOT of a run", () -> {
+            for (int k = 1; k < 40; k++) {
+                SharedAir x = Edges.manyThings(k);
+                x.keep(1);
+                Edges.net(x, "4ab3bc3cd3");
+                Edges.offerMany(x, 4, 0, 0, 1, 3);
+                Edges.offerMany(x, 2, 3, 0, 2, 9);
+                x.slots(5);
+                x.keep(0);
+                x.again(1);
+                SharedAir y = Edges.manyThings(k);
+                t.due("SPANS", spansOf(x).equals(spansOf(y)), true);
+                Edges.goOn(x, 12);
+                t.due("it goes on so, from SLOT " + k, Edges.sameButForUndo(x, Edges.manyThings(k + 12)), true);
+            }
+        });
+        t.edge("Promise 35", kept, "of the last STATIONS too", () -> {
+            SharedAir x = lastOnes();
+            dueLastOnes(x);
+            x.keep(0);
+            Edges.net(x, "6ab1");
+            t.due("PLACES of e that f spoilt", x.spoilt(4, 5), 0);
+            t.due("a and f", x.rate(0, 5), -2);
+            x.again(0);
+            dueLastOnes(x);
+            Edges.net(x, "6af3ae3");
+            t.due("PLACES of e that f spoilt", x.spoilt(4, 5), 0);
+            t.due("RATE of a to f", x.rate(0, 5), 1);
+            t.dueRow(x, 0, 3);
+            x.undo();
+            dueLastOnes(x);
+        });
+        t.edge("Promise 35", kept, "each SETTING", () -> {
+            for (int what = 0; what <= 12; what++) {
+                SharedAir x = new SharedAir();
+                x.sets(what, 3);
+                x.keep(0);
+                x.sets(what, 1);
+                x.again(0);
+                t.due("SETTING " + what, x.setting(what), 3);
+            }
         });
         t.edge("Promise 35", kept, "no STATIONS, as a new object is", () -> {
             SharedAir x = new SharedAir();

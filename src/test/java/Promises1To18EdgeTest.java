@@ -312,7 +312,7 @@ public final class Promises1To18EdgeTest {
             y.sets(7, 5);
             y.sets(12, seed);
             Edges.net(y, "3ab2bc2ac1");
-            t.due("all of it", Edges.sameButForUndo(Edges.all(x), Edges.all(y)), true);
+            t.due("all of it", Edges.sameButForUndo(x, y), true);
         });
         t.edge("Promise 4", anew, "no debt, no EXCHANGE, no SPAN is left", () -> {
             SharedAir x = Edges.used();
@@ -328,6 +328,31 @@ public final class Promises1To18EdgeTest {
             t.due("nobody SENDS", x.slots(60), 0);
             t.due("busy()", x.busy(), 0);
             t.dueRow(x, 60, 0);
+        });
+        t.edge("Promise 4", anew, "STILL and T that were more", () -> {
+            SharedAir x = Edges.made("2ab1");
+            x.slots(9);
+            Edges.net(x, "2ab1");
+            t.due("STILL", x.station(0, 0) + x.station(1, 0), 0);
+            t.due("T", x.count(1), 0);
+            x.offers(0, 0, 1, 1);
+            t.due("next()", x.next(), 2);
+        });
+        t.edge("Promise 4", anew, "COUNTS, WINDOWS, RATES and LUCK that were more", () -> {
+            SharedAir x = Edges.atRate(2, "3ab3bc3");
+            x.offers(0, 0, 1, 1);
+            x.offers(0, 1, 1, 1);
+            Edges.drawCounts(x, 0, 0);
+            x.slots(9);
+            x.draws();
+            Edges.net(x, "3ab3bc3");
+            t.due("RATE", x.rate(0, 1), 1);
+            t.dueRow(x, 0, 3);
+            for (int r = 0; r < 4; r++) {
+                t.due("FRAMES", x.rank(0, r, 0), 0);
+                t.due("COUNT", x.rank(0, r, 1), 0);
+                t.due("WINDOW", x.rank(0, r, 2), new int[] {1, 7, 15, 15}[r]);
+            }
         });
         t.edge("Promise 4", anew, "SETTINGS stay, SEED too", () -> {
             SharedAir x = Edges.used();
@@ -476,6 +501,17 @@ public final class Promises1To18EdgeTest {
             t.due("c's", x.rank(2, 0, 0), 0);
             t.due("six", x.sheet(0, 2, 6, 1, 0), 3);
             t.due("FRAMES in all", x.count(2), 3);
+        });
+        String become = "Of QUEUES of a RANK the FRAMES of STATIONS 0, 1, .. become as a sheet tells";
+        t.edge("Promise 7", become, "RANKS 0 and 3", () -> {
+            SharedAir x = Edges.made("2ab1");
+            x.slots(4);
+            t.due("RANK 0", x.sheet(0, 2, 2, 3, 0), 2);
+            t.due("RANK 3", x.sheet(3, 2, 2, 5, 0), 2);
+            t.due("UNITS of RANK 0's", x.frame(1, 0, 0, 1), 4);
+            t.due("UNITS of RANK 3's", x.frame(1, 3, 0, 1), 6);
+            t.due("never TRIED", x.frame(1, 3, 0, 2), 0);
+            t.due("offered in SLOT 4", x.frame(1, 3, 0, 3), 4);
         });
         String emptied = "each STATION's QUEUE of that RANK is emptied";
         t.edge("Promise 7", emptied, "a full one, and of STATIONS without entry", () -> {
@@ -835,6 +871,19 @@ public final class Promises1To18EdgeTest {
             t.due("e", x.station(4, 5), 32);
             t.due("alone", Edges.made("1").station(0, 5), 0);
         });
+        t.edge("Promise 11", "Of a STATION, what 0: STILL, 1: its SPAN", "0, and more", () -> {
+            SharedAir x = Edges.made("3ab1ac1");
+            t.due("STILL", x.station(2, 0), 0);
+            t.due("SPAN", x.station(2, 1), 0);
+            x.offers(0, 0, 1, 1);
+            x.slots(2);
+            t.due("STILL", x.station(2, 0), 2);
+            x.slots(1);
+            t.due("STILL", x.station(2, 0), 0);
+            t.due("SPAN", x.station(2, 1), 4);
+            x.slots(60);
+            t.due("a SPAN that is over stays", x.station(2, 1), 4);
+        });
         t.edge("Promise 11", "6: FRAMES that wait in all.", "of all RANKS, those of an EXCHANGE too", () -> {
             SharedAir x = Edges.made("2ab1");
             for (int r = 0; r < 4; r++) {
@@ -932,6 +981,16 @@ public final class Promises1To18EdgeTest {
             t.dueThrow("frame(0, 0, 0, 5)", () -> x.frame(0, 0, 0, 5));
             t.dueThrow("frame(0, 0, 0, -1)", () -> x.frame(0, 0, 0, -1));
         });
+        t.edge("Promise 13", "what 0: to whom, 1: UNITS, 2: how often it was TRIED", "the least and the most of them", () -> {
+            SharedAir x = Edges.made("6af1fb1");
+            x.offers(5, 0, 0, 1);
+            x.offers(0, 3, 5, 9);
+            t.due("to a", x.frame(5, 0, 0, 0), 0);
+            t.due("1 UNIT", x.frame(5, 0, 0, 1), 1);
+            t.due("TRIED", x.frame(5, 0, 0, 2), 0);
+            t.due("to f", x.frame(0, 3, 0, 0), 5);
+            t.due("9 UNITS", x.frame(0, 3, 0, 1), 9);
+        });
         t.edge("Promise 13", "3: T as it was offered.", "0, and later", () -> {
             SharedAir x = Edges.made("2ab1");
             x.offers(0, 3, 1, 1);
@@ -970,6 +1029,28 @@ public final class Promises1To18EdgeTest {
             t.due("exchange(6, 0)", x.exchange(6, 0), -1);
             t.due("exchange(-1, 0)", x.exchange(-1, 0), -1);
             t.due("exchange(MAX, 0)", x.exchange(Integer.MAX_VALUE, 0), -1);
+        });
+        String step = "4: what the next SLOT is for: 0 ASK, 1 GRANT, 2 DATA, 3 ANSWER";
+        t.edge("Promise 14", step, "D is 1: its ANSWER is next at once", () -> {
+            SharedAir x = Edges.made("2ab1");
+            x.offers(0, 0, 1, 1);
+            x.slots(3);
+            t.due("exchange(0, 4)", x.exchange(0, 4), 3);
+        });
+        t.edge("Promise 14", step, "D is 2: its last PLACE is next", () -> {
+            SharedAir x = Edges.made("2ab1");
+            x.offers(0, 0, 1, 2);
+            x.slots(3);
+            t.due("exchange(0, 4)", x.exchange(0, 4), 2);
+            t.due("exchange(0, 5)", x.exchange(0, 5), 1);
+        });
+        t.edge("Promise 14", step, "though nobody will ANSWER", () -> {
+            SharedAir x = Edges.made("3ab1bc1");
+            x.offers(0, 0, 1, 1);
+            x.offers(2, 0, 1, 1);
+            x.slots(3);
+            t.due("exchange(0, 4)", x.exchange(0, 4), 3);
+            t.due("exchange(2, 4)", x.exchange(2, 4), 3);
         });
         String left = "5: SLOTS of that left (1 but for DATA)";
         t.edge("Promise 14", left, "of ASK, GRANT, DATA, ANSWER", () -> {
@@ -1038,6 +1119,18 @@ public final class Promises1To18EdgeTest {
             t.due("sent()", x.sent(), 0);
         });
         String told = "Who SENT in the latest SLOT (bits); the ROW: who was CLEAR for somebody (bits), whose SPAN RAN in it (bits).";
+        t.edge("Promise 15", told, "a's SPAN, f's SPAN", () -> {
+            SharedAir x = Edges.made("3ab1bc1ac1");
+            x.offers(2, 0, 1, 1);
+            x.slots(4);
+            t.due("b ANSWERS", x.sent(), 2);
+            t.dueRow(x, 5, 1);
+            SharedAir y = Edges.made("6ab1af1");
+            y.offers(0, 0, 1, 1);
+            y.slots(4);
+            t.due("b ANSWERS", y.sent(), 2);
+            t.dueRow(y, 1, 32);
+        });
         t.edge("Promise 15", told, "the latest one alone", () -> {
             SharedAir x = Edges.made("3ab1ac1");
             x.offers(0, 0, 1, 1);
@@ -1073,6 +1166,27 @@ public final class Promises1To18EdgeTest {
             t.due("spanOf(3)", x.spanOf(3), -1);
             t.due("spanOf(-1)", x.spanOf(-1), -1);
             t.due("spanOf(MAX)", x.spanOf(Integer.MAX_VALUE), -1);
+        });
+        String whose = "Whose EXCHANGE (the SENDER) made the SPAN of a STATION what it is: the SENDER";
+        t.edge("Promise 16", whose, "of a, that is 0, and of f", () -> {
+            SharedAir x = Edges.made("6ab1af1");
+            x.offers(0, 0, 1, 1);
+            x.slots(3);
+            t.due("f's", x.spanOf(5), 0);
+            SharedAir y = Edges.made("6fb1af1");
+            y.offers(5, 0, 1, 1);
+            y.slots(3);
+            t.due("a's", y.spanOf(0), 5);
+        });
+        t.edge("Promise 16", whose, "the later one, if it is more", () -> {
+            // c HEARS a's last PLACE in SLOT 2 (SPAN 4) and d's ASK in SLOT 5 (SPAN 13).
+            SharedAir x = Edges.made("5ab1ac1cd1de1");
+            x.offers(0, 0, 1, 1);
+            x.slots(5);
+            x.offers(3, 0, 4, 5);
+            x.slots(1);
+            t.due("c's", x.spanOf(2), 3);
+            t.dueRow(x, 0, 7);
         });
         String step = "in which step it heard of that: 0 ASK, 1 GRANT, 2 DATA; how many SLOTS it RUNS yet, from the next one on.";
         t.edge("Promise 16", step, "ASK", () -> {

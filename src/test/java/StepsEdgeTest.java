@@ -182,6 +182,22 @@ public final class StepsEdgeTest {
     // ---- Terms 1: steps (b), (c), (d)
 
     private static void owed() {
+        t.edge("Terms 1", "SENDERS in ASK or DATA SEND", "in GRANT and ANSWER they do not", () -> {
+            SharedAir x = Edges.asking("2ab1", 5);
+            int[] due = {0, 0, 1, 2, 1, 1, 1, 1, 1, 2, 0};
+            for (int slot = 0; slot < due.length; slot++) {
+                x.slots(1);
+                t.due("who SENT in SLOT " + slot, x.sent(), due[slot]);
+            }
+        });
+        t.edge("Terms 1", "SENDERS in ASK or DATA SEND", "in DATA at once, if none is ASKED", () -> {
+            SharedAir x = Edges.asking("2ab1", 4);
+            int[] due = {0, 0, 1, 1, 1, 1, 2, 0};
+            for (int slot = 0; slot < due.length; slot++) {
+                x.slots(1);
+                t.due("who SENT in SLOT " + slot, x.sent(), due[slot]);
+            }
+        });
         t.edge("Terms 1", DUE, "a GRANT, in the next SLOT alone", () -> {
             SharedAir x = Edges.asking("2ab1", 5);
             x.slots(3);
@@ -369,6 +385,18 @@ public final class StepsEdgeTest {
             t.due("it is over", x.exchange(0, 0), -1);
             t.due("FAILED", x.tally(0, 4), 1);
             t.due("TRIED", x.frame(0, 0, 0, 2), 1);
+        });
+        t.edge("Terms 1", GRANT, "y SENDS something else", () -> {
+            // b's own DATA for c is in SLOTS 2 .. 5; a ASKS it in SLOT 2 and HEARS it alone in SLOT 3.
+            SharedAir x = Edges.made("3ab1bc1");
+            x.offers(0, 0, 1, 5);
+            x.offers(1, 0, 2, 4);
+            x.slots(4);
+            t.due("b SENT", x.sent(), 2);
+            t.dueRow(x, 5, 0);
+            t.due("a's is over", x.exchange(0, 0), -1);
+            t.due("why", x.why(0), 1);
+            t.dueRow(x, 3, 1);
         });
         t.edge("Terms 1", GRANT, "x HEARS another one too", () -> {
             SharedAir x = grantInVain();
@@ -572,6 +600,46 @@ public final class StepsEdgeTest {
             t.due("of 1 UNIT", x.frame(0, 0, 0, 1), 1);
             t.due("TRIED", x.frame(0, 0, 0, 2), 1);
         });
+        t.edge("Terms 1", DELIVERED, "the other one is the second of two", () -> {
+            SharedAir x = spoiltIn(5);
+            x.slots(4);
+            t.due("one came", x.tally(0, 0), 1);
+            t.due("of 1 UNIT", x.tally(0, 1), 1);
+            t.due("one stays", x.rank(0, 0, 0), 1);
+            t.due("of 2 UNITS", x.frame(0, 0, 0, 1), 2);
+            t.due("TRIED", x.frame(0, 0, 0, 2), 1);
+        });
+        t.edge("Terms 1", DELIVERED, "the other ones are the second and the third of four", () -> {
+            // c's two PLACES for d, in SLOTS 4 and 5, spoil a's second FRAME and its third one.
+            SharedAir x = Edges.made("4ab2bc2cd2");
+            x.sets(1, 4);
+            x.sets(3, 3);
+            x.sets(4, 4);
+            for (int units = 1; units <= 4; units++) {
+                x.offers(0, 0, 1, 1);
+            }
+            x.offers(2, 1, 3, 2);
+            x.slots(8);
+            t.due("the first and the last one", x.tally(0, 0), 2);
+            t.due("two stay", x.rank(0, 0, 0), 2);
+            t.due("TRIED", x.frame(0, 0, 0, 2) + x.frame(0, 0, 1, 2), 2);
+        });
+        t.edge("Terms 1", DELIVERED, "those behind move up with all of theirs", () -> {
+            SharedAir x = Edges.made("3ab2ac2");
+            x.offers(0, 0, 1, 1);
+            x.slots(1);
+            x.offers(0, 0, 2, 5);
+            x.slots(1);
+            x.offers(0, 0, 1, 7);
+            t.due("the first one", x.slots(2), 1);
+            t.due("two stay", x.rank(0, 0, 0), 2);
+            t.due("to c", x.frame(0, 0, 0, 0), 2);
+            t.due("of 5 UNITS", x.frame(0, 0, 0, 1), 5);
+            t.due("offered in SLOT 1", x.frame(0, 0, 0, 3), 1);
+            t.due("to b", x.frame(0, 0, 1, 0), 1);
+            t.due("of 7 UNITS", x.frame(0, 0, 1, 1), 7);
+            t.due("offered in SLOT 2", x.frame(0, 0, 1, 3), 2);
+        });
         t.edge("Terms 1", DELIVERED, "one behind the EXCHANGE was not TRIED", () -> {
             SharedAir x = spoiltIn(3);
             x.offers(0, 0, 1, 7);
@@ -595,6 +663,18 @@ public final class StepsEdgeTest {
             t.due("it leaves", x.rank(0, 0, 0), 0);
             t.due("no EXCHANGE FAILED", x.tally(0, 4), 0);
         });
+        t.edge("Terms 1", DELIVERED, "TRIES 2 and 1, of the second of two", () -> {
+            SharedAir x = spoiltIn(5);
+            x.sets(2, 2);
+            x.slots(4);
+            t.due("LOST", x.tally(0, 2), 0);
+            t.due("it stays", x.rank(0, 0, 0), 1);
+            SharedAir y = spoiltIn(5);
+            y.sets(2, 1);
+            y.slots(4);
+            t.due("LOST", y.tally(0, 2), 1);
+            t.due("it leaves", y.rank(0, 0, 0), 0);
+        });
         t.edge("Terms 1", DELIVERED, "the WINDOW is the LEAST one again", () -> {
             SharedAir x = Edges.made("2ab1");
             x.sets(3, 3);
@@ -614,6 +694,25 @@ public final class StepsEdgeTest {
             t.due("none waits", x.count(2), 0);
             t.due("SEED", x.setting(12), 1103527590);
             t.due("COUNT", x.rank(0, 0, 1), 16838 % 4);
+        });
+        t.edge("Terms 1", DELIVERED, "y SENDS something else", () -> {
+            // b's own DATA for c is in SLOTS 2 .. 5; a's FRAME is in SLOT 2, and a HEARS b alone in SLOT 3.
+            SharedAir x = Edges.made("3ab1bc1");
+            x.offers(0, 0, 1, 1);
+            x.offers(1, 0, 2, 4);
+            x.slots(4);
+            t.due("b SENT", x.sent(), 2);
+            t.due("none came", x.tally(0, 0), 0);
+            t.due("a's FAILED", x.tally(0, 4), 1);
+            t.due("why", x.why(0), 5);
+        });
+        t.edge("Terms 1", DELIVERED, "COUNT is the LEAST WINDOW itself at most", () -> {
+            for (int count = 0; count <= 3; count++) {
+                SharedAir x = Edges.asking("2ab1", 1);
+                x.sets(12, Edges.seedFor(new int[] {3}, count));
+                x.slots(4);
+                t.due("COUNT", x.rank(0, 0, 1), count);
+            }
         });
         t.edge("Terms 1", DELIVERED, "one COUNT is DRAWN of all of them", () -> {
             SharedAir x = Edges.made("2ab1");
@@ -777,6 +876,16 @@ public final class StepsEdgeTest {
             y.offers(0, 0, 1, 1);
             y.slots(2);
             t.due("COUNT", y.rank(0, 0, 1), 16838 % 64);
+        });
+        t.edge("Terms 1", FAILS, "COUNT is the WINDOW itself at most", () -> {
+            int[] counts = {0, 1, 62, 63};
+            for (int count : counts) {
+                SharedAir x = jammed(4, 31, 63);
+                x.sets(12, Edges.seedFor(new int[] {63}, count));
+                x.offers(0, 0, 1, 1);
+                x.slots(2);
+                t.due("COUNT", x.rank(0, 0, 1), count);
+            }
         });
         t.edge("Terms 1", FAILS, "others' RANKS stay", () -> {
             SharedAir x = jammed(4, 3, 63);
@@ -945,6 +1054,23 @@ public final class StepsEdgeTest {
     }
 
     private static void countsDown() {
+        t.edge("Terms 1", "Then of each STATION: STILL is told anew;", "COUNT goes by the new one", () -> {
+            SharedAir x = drawn14();
+            x.slots(3);
+            t.due("STILL is 3, as WAIT", x.station(0, 0), 3);
+            x.slots(1);
+            t.due("STILL 4 is told", x.station(0, 0), 4);
+            t.due("COUNT, in that SLOT", x.rank(0, 2, 1), 13);
+        });
+        t.edge("Terms 1", "Then of each STATION: STILL is told anew;", "0 keeps COUNT in that SLOT", () -> {
+            SharedAir x = drawn14();
+            x.slots(5);
+            t.due("COUNT", x.rank(0, 2, 1), 12);
+            x.offers(1, 0, 0, 1);
+            x.slots(1);
+            t.due("a HEARD b", x.station(0, 0), 0);
+            t.due("COUNT", x.rank(0, 2, 1), 12);
+        });
         t.edge("Terms 1", COUNT_DOWN, "STILL as WAIT: it stays", () -> {
             SharedAir x = drawn14();
             x.slots(3);

@@ -172,6 +172,21 @@ public final class TermsEdgeTest {
             t.due("the other one's", x.frame(0, 0, 1, 1), 9);
             t.due("TRIED", x.frame(0, 0, 1, 2), 0);
         });
+        t.edge("Terms 1", "to whom, UNITS (1 .. 9), how often it was TRIED", "a new one never, where another one stood", () -> {
+            SharedAir x = Edges.made("3ab1bc1");
+            x.sets(2, 2);
+            x.offers(0, 0, 1, 1);
+            x.offers(2, 0, 1, 1);
+            x.slots(4);
+            t.due("TRIED", x.frame(0, 0, 0, 2), 1);
+            x.sets(2, 1);
+            x.slots(60);
+            t.due("none waits", x.count(2), 0);
+            x.offers(0, 0, 1, 1);
+            x.offers(2, 0, 1, 1);
+            t.due("a's", x.frame(0, 0, 0, 2), 0);
+            t.due("c's", x.frame(2, 0, 0, 2), 0);
+        });
         String window = "a WINDOW (at first the LEAST) and a COUNT (at first 0).";
         t.edge("Terms 1", window, "WINDOWS at first", () -> {
             SharedAir x = Edges.made("6");
